@@ -661,50 +661,31 @@ public final class PowerChains {
             worth = NONE;
             if (next >= length) {
                 kind = END;
-            } else if (isLetter(bytes[next])) {
+                return;
+            }
+            byte first = bytes[next];
+            if (first >= 'a' && first <= 'z') {
                 kind = WORD;
-                scanWord();
-            } else if (isDigit(bytes[next])) {
+                takeRun('a', 'z', 0, 256);
+            } else if (first >= '0' && first <= '9') {
                 kind = NUMBER;
-                scanNumber();
+                takeRun('0', '9', '0', 10);
             } else {
-                kind = isSign(bytes[next]) ? bytes[next] : STRAY;
+                kind = first == ';' || first == '=' || first == '*' || first == '^' ? first : STRAY;
                 next++;
             }
         }
 
-        private void scanWord() {
-            int letters = 0;
-            while (next < length && isLetter(bytes[next])) {
-                letters = letters << 8 | bytes[next];
-                next++;
-            }
-            if (next - place <= LONGEST) {
-                worth = letters;
-            }
-        }
-
-        private void scanNumber() {
-            int number = 0;
-            while (next < length && isDigit(bytes[next])) {
-                number = number * 10 + (bytes[next] - '0');
+        /** Takes the bytes from low to high that stand together, as digits of a radix. */
+        private void takeRun(int low, int high, int zero, int radix) {
+            int sum = 0;
+            while (next < length && bytes[next] >= low && bytes[next] <= high) {
+                sum = sum * radix + (bytes[next] - zero);
                 next++;
             }
             if (next - place <= LONGEST) {
-                worth = number;
+                worth = sum;
             }
-        }
-
-        private static boolean isLetter(byte sign) {
-            return sign >= 'a' && sign <= 'z';
-        }
-
-        private static boolean isDigit(byte sign) {
-            return sign >= '0' && sign <= '9';
-        }
-
-        private static boolean isSign(byte sign) {
-            return sign == ';' || sign == '=' || sign == '*' || sign == '^';
         }
     }
 
@@ -737,15 +718,13 @@ public final class PowerChains {
             tokens.begin(text, length);
             tokens.advance();
             int fault = isWord(BASE_WORD) ? readBases() : fault(UNEXPECTED);
-            if (fault == 0) {
-                fault = readStatements(length);
-            }
-            if (fault == 0) {
-                fault = readWants();
-            }
-            if (fault == 0) {
+            // A statement has bytes of its own, so there are fewer of them than bytes.
+            for (int statement = 0; statement <= length && fault == 0; statement++) {
                 tokens.advance();
-                fault = tokens.kind == Tokens.END ? 0 : fault(UNEXPECTED);
+                if (isWord(WANT_WORD)) {
+                    return readWants();
+                }
+                fault = readStatement();
             }
             return fault;
         }
@@ -770,25 +749,11 @@ public final class PowerChains {
             return 0;
         }
 
-        private int readStatements(int length) {
-            for (int place = 0; place <= length; place++) {
-                tokens.advance();
-                if (isWord(WANT_WORD)) {
-                    return 0;
-                }
-                int fault = readStatement();
-                if (fault != 0) {
-                    return fault;
-                }
-            }
-            return fault(UNEXPECTED);
-        }
-
         private int readWants() {
             for (int count = 0; count <= MOST_WANTS; count++) {
                 tokens.advance();
                 if (tokens.kind == ';' && count > 0) {
-                    return 0;
+                    return readEnd();
                 }
                 int fault = knownNameFault();
                 if (fault != 0) {
@@ -801,6 +766,11 @@ public final class PowerChains {
                 program.wantCount++;
             }
             return 0;
+        }
+
+        private int readEnd() {
+            tokens.advance();
+            return tokens.kind == Tokens.END ? 0 : fault(UNEXPECTED);
         }
 
         private int readStatement() {
