@@ -1083,7 +1083,7 @@ public final class PowerChains {
                     goRight(n);
                     break;
                 case 2:
-                    goFactor(n, 1, 0);
+                    goFactor(this, n, 1, 0);
                     break;
                 default:
                     goThrees(n);
@@ -1116,17 +1116,17 @@ public final class PowerChains {
         }
 
         /** Puts down the chain of n, each number so many times as great. */
-        private void goFactor(int n, int times, int depth) {
+        private static void goFactor(Chain chain, int n, int times, int depth) {
             if (n <= 1 || depth > DEEPEST) {
                 return;
             }
             int prime = leastPrimeOf(n);
             if (prime == n) {
-                goFactor(n - 1, times, depth + 1);
-                put(times * n);
+                goFactor(chain, n - 1, times, depth + 1);
+                chain.put(times * n);
             } else {
-                goFactor(prime, times, depth + 1);
-                goFactor(n / prime, times * prime, depth + 1);
+                goFactor(chain, prime, times, depth + 1);
+                goFactor(chain, n / prime, times * prime, depth + 1);
             }
         }
 
@@ -1156,19 +1156,12 @@ public final class PowerChains {
             }
         }
 
+        /** Every method comes to its numbers in rising order, but for those that are there already. */
         private void put(int number) {
-            int at = 0;
-            while (at < size && row[at] < number) {
-                at++;
+            if (size < ROOM && (size == 0 || number > row[size - 1])) {
+                row[size] = number;
+                size++;
             }
-            if (size >= ROOM || at < size && row[at] == number) {
-                return;
-            }
-            for (int i = size; i > at; i--) {
-                row[i] = row[i - 1];
-            }
-            row[at] = number;
-            size++;
         }
 
         boolean eachIsOfTheOneAhead() {
@@ -1204,6 +1197,7 @@ public final class PowerChains {
         int foundLength = NONE;
         private int sought;
         private int budget;
+        /** How many numbers may stand behind 1 for now; it keeps the depth of visits low. */
         private int limit;
 
         boolean seek(int n, int visitsAtMost) {
@@ -1215,30 +1209,31 @@ public final class PowerChains {
             int end = BACK;
             for (int length = bound(n, 1); length <= LONGEST && end == BACK; length++) {
                 limit = length;
-                end = visit(0);
+                end = visit(this, 0);
             }
             return end == FOUND;
         }
 
         /** Goes on from the number at place k, the last one so far. */
-        private int visit(int k) {
-            if (visits >= budget) {
+        private static int visit(Seeker seeker, int k) {
+            if (seeker.visits >= seeker.budget) {
                 return GIVEN_UP;
             }
-            visits++;
+            seeker.visits++;
+            int[] row = seeker.row;
             int last = row[k];
-            if (last == sought) {
-                foundLength = k;
+            if (last == seeker.sought) {
+                seeker.foundLength = k;
                 return FOUND;
             }
-            if (k >= limit || (long) last << limit - k < sought) {
+            if (k >= seeker.limit || (long) last << seeker.limit - k < seeker.sought) {
                 return BACK;
             }
             int end = BACK;
             for (int i = k; i >= 0 && end == BACK; i--) {
-                if (last + row[i] <= sought) {
+                if (last + row[i] <= seeker.sought) {
                     row[k + 1] = last + row[i];
-                    end = visit(k + 1);
+                    end = visit(seeker, k + 1);
                 }
             }
             return end;

@@ -79,12 +79,37 @@ public final class DualTest {
         x.undo();
         Due.is("dual()", x.dual(), 60);
         Due.exponents(x, 60, 61);
+        refusedInEachRow();
         // With four bases the rows are more and the steps fewer.
         x = Due.of("base a b c d;e=a*b;f=c*d;g=e*f;want g;");
         Due.is("dual()", x.dual(), 0);
         Due.wants(x, 0, 0, 0, 0);
         Due.is("dual() of that", x.dual(), 3);
         Due.exponents(x, 6, 1, 1, 1, 1);
+    }
+
+    /** Wherever in a row the 61st step would come, and whatever comes behind it, the dual can't be. */
+    private static void refusedInEachRow() {
+        PowerChains x = Due.of("base a;b=a*a;want b b b b;");
+        PowerChains y = Due.of("base a;b=a*a;want b b b b;");
+        for (int step = 2; step <= 60; step++) {
+            x.add(step - 1, 0);
+            y.add(0, step - 1);
+        }
+        x.want(0, 60);
+        y.want(0, 60);
+        Due.is("steps are of the base by their right", x.dualLong(), -1);
+        Due.is("steps are of the base by their left", y.dualLong(), -1);
+        x = Due.of("base a b;c=a*b;want c a a a;");
+        for (int step = 3; step <= 61; step++) {
+            x.add(step - 1, 1);
+        }
+        x.want(0, 61);
+        Due.is("a base is wanted thrice", x.dualLong(), -1);
+        x.want(1, 61);
+        x.want(2, 61);
+        Due.is("a step is wanted thrice", x.dualLong(), -1);
+        Due.is("steps", x.count(1), 60);
     }
 
     private static void sequences() {

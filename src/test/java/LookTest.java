@@ -36,6 +36,9 @@ public final class LookTest {
         Due.is("greatest depth, needed or not", x.count(7), 20);
         x = Due.of("base a b;c=a^8;d=b^2;e=a*b;want e;");
         Due.is("greatest depth is not the last one's", x.count(7), 3);
+        x = Due.of("base a b;c=a^8;d=b*c;e=d*b;want e;");
+        Due.is("depth by the right", Due.node(x, 5, 3), 4);
+        Due.is("depth by the left", Due.node(x, 6, 3), 5);
     }
 
     private static void nodes() {

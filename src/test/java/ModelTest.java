@@ -2,7 +2,7 @@ import java.util.Random;
 
 /** All promises: runs of calls by chance (the same each time), each answer compared with the model's. */
 public final class ModelTest {
-    private static final int RUNS = 1500;
+    private static final int RUNS = 500;
     private static final int CALLS = 300;
 
     private final Random chance;

@@ -88,5 +88,7 @@ public final class SearchTest {
             }
         }
         Due.is("search(1024, 11)", x.search(1024, 11), 10);
+        Due.is("the greatest that is sought", x.search(2047, 5), -2);
+        Due.is("visits", x.count(11), 5);
     }
 }

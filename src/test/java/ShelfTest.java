@@ -75,8 +75,10 @@ public final class ShelfTest {
         Due.is("a want fewer", x.same(0), 0);
         Due.text(x, "base a b;p=a*b;q=p*a;want q b;");
         Due.is("one exponent of another", x.same(0), 0);
+        Due.text(x, "base a b;p=b^2;q=p*a;want q b;");
+        Due.is("an exponent of the first base alone", x.same(0), 0);
         Due.is("same(1)", x.same(1), -1);
-        Due.is("same is no thing done", x.count(8), 9);
+        Due.is("same is no thing done", x.count(8), 10);
     }
 
     private static void undoOfEach() {

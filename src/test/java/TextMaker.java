@@ -64,6 +64,9 @@ final class TextMaker {
         gap();
         text.append(';');
         boolean many = chance.nextInt(4) == 0;
+        if (chance.nextInt(4) == 0) {
+            doublings();
+        }
         for (int left = chance.nextInt(many ? 62 : 8); left > 0 && text.length() < 470; left--) {
             statement(many);
         }
@@ -74,6 +77,17 @@ final class TextMaker {
         }
         text.append(';');
         gap();
+    }
+
+    /** Powers of 2 of the name right ahead, so that exponents come near to the greatest one. */
+    private void doublings() {
+        for (int left = 44 + chance.nextInt(12); left > 0;) {
+            int more = Math.min(left, 1 + chance.nextInt(13));
+            String name = newName();
+            text.append(name).append('=').append(names.get(names.size() - 1)).append('^').append(1 << more).append(';');
+            names.add(name);
+            left -= more;
+        }
     }
 
     private void statement(boolean many) {
