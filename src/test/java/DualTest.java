@@ -110,6 +110,19 @@ public final class DualTest {
         x.want(2, 61);
         Due.is("a step is wanted thrice", x.dualLong(), -1);
         Due.is("steps", x.count(1), 60);
+        // The 61st comes at a step, and the base could do without that one.
+        x = Due.of("base a;b=a*a;c=b*b;want c c c c;");
+        y = Due.of("base a;b=a*a;c=b*b;want c c c c;");
+        for (int step = 3; step <= 59; step++) {
+            x.add(step - 1, 1);
+            y.add(1, step - 1);
+        }
+        x.add(59, 0);
+        y.add(59, 0);
+        x.want(0, 60);
+        y.want(0, 60);
+        Due.is("a step is of another by its right", x.dualLong(), -1);
+        Due.is("a step is of another by its left", y.dualLong(), -1);
     }
 
     private static void sequences() {

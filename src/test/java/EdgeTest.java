@@ -6,49 +6,52 @@ public final class EdgeTest {
     };
 
     public static void main(String[] args) {
-        calls(new PowerChains(), "new");
-        calls(Due.of("base a;want a;"), "one base");
-        calls(Due.of(FaultTest.GREATEST + "want z a y x;"), "great");
-        PowerChains full = Due.of("base a b c d;e=a*b;want e d;");
+        calls(new PowerChains(), "new", 0);
+        calls(Due.of("base a;want a;"), "one base", 1);
+        calls(Due.of(FaultTest.GREATEST + "want z a y x;"), "great", 60);
+        PowerChains full = Due.of("base a b c d;e=a*b;want e d e c;");
         for (int i = 0; i < 59; i++) {
-            full.add(i % 5, i % 3);
+            full.add(i + 4, i % 3);
         }
+        full.want(0, 63);
         full.save(0);
-        calls(full, "full");
+        calls(full, "full", 64);
         Due.end();
     }
 
-    private static void calls(PowerChains x, String state) {
+    private static void calls(PowerChains x, String state, int nodes) {
         for (int a : EDGES) {
             for (int b : EDGES) {
                 two(x, a, b);
                 for (int c : EDGES) {
-                    x.chain(a, b, c);
-                    x.run(a, b, c, b, a, c);
-                    x.isChain(a, b, c, b, c, a);
-                    x.sequence(a, b, c, b, a);
-                    x.undo();
-                    x.vector(a, b, c, a, b);
-                    x.undo();
+                    three(x, a, b, c);
                 }
             }
             one(x, a);
         }
-        x.dual();
-        x.fold();
-        x.prune();
-        Due.is(state + ": no call threw", 0, 0);
+        Due.is(state + ": nodes are still", x.count(0) + x.count(1), nodes);
+        back(x, x.dual());
+        back(x, x.fold() - 1);
+        back(x, x.prune() - 1);
+        x.dualLong();
+        Due.is(state + ": nodes are still", x.count(0) + x.count(1), nodes);
+    }
+
+    /** Takes back what was done, if it was. */
+    private static void back(PowerChains x, int answer) {
+        if (answer >= 0) {
+            x.undo();
+        }
     }
 
     private static void one(PowerChains x, int a) {
         x.feed(a, a, a, a, a);
-        x.text(a);
+        back(x, x.text(a));
         x.count(a);
         x.wanted(a);
-        x.save(a);
         x.same(a);
-        x.load(a);
-        x.undo();
+        x.save(a);
+        back(x, x.load(a));
         x.best(a);
         x.found(a);
     }
@@ -56,13 +59,22 @@ public final class EdgeTest {
     private static void two(PowerChains x, int a, int b) {
         Due.node(x, a, b);
         x.exponent(a, b);
-        x.add(a, b);
-        x.undo();
-        x.want(a, b);
-        x.undo();
+        back(x, x.add(a, b));
+        back(x, x.want(a, b));
         x.method(a, b);
         x.star(a, b);
         x.lower(a, b);
         x.search(a, Math.min(b, 500));
+        for (int what = 0; what < 13; what++) {
+            x.count(what);
+        }
+    }
+
+    private static void three(PowerChains x, int a, int b, int c) {
+        x.chain(a, b, c);
+        x.run(a, b, c, b, a, c);
+        x.isChain(a, b, c, b, c, a);
+        back(x, x.sequence(a, b, c, b, a));
+        back(x, x.vector(a, b, c, a, b));
     }
 }

@@ -57,6 +57,11 @@ public final class SearchTest {
         // 19: r is 6: 1, 2, 4, 8, 16, 18, 19.
         Due.is("search(19, 7)", x.search(19, 7), 6);
         found(x, 1, 2, 4, 8, 16, 18, 19);
+        // 15, gone through by hand: 7 with one number left is too little, and is left again at once.
+        Due.is("search(15, 32)", x.search(15, 32), 5);
+        found(x, 1, 2, 4, 5, 10, 15);
+        Due.is("visits", x.count(11), 32);
+        Due.is("search(15, 31)", x.search(15, 31), -2);
         // 29 is the least that wants one more than the bound: r goes from 6 to 7, visits add up.
         Due.is("search(29, 100000)", x.search(29, 100_000), 7);
         int visits = x.count(11);

@@ -50,12 +50,19 @@ public final class TapeTest {
     private static void textTakesTheTape() {
         PowerChains x = new PowerChains();
         x.feed(0x62617365, 0x20613B77, 0x616E7420, 0x613B2121, 0x21212121);
-        Due.is("text(14) is behind nothing but the ;", x.text(14), 0);
+        Due.is("text(14) ends with the ;", x.text(14), 0);
         Due.is("the rest of the tape is gone", x.count(10), 0);
         Due.is("text(1) of an empty tape", x.text(1), -1);
         Due.is("count(8)", x.count(8), 1);
         Due.text(x, "base a b; want b;");
         Due.is("count(8)", x.count(8), 2);
+        // A text may end within what would else be a word, a number or a blank.
+        x.feed(0x62617365, 0x20616263, 0, 0, 0);
+        Due.is("text(6) of base abc", x.text(6), -2 - (8 * 6 + 1));
+        x.feed(0x62617365, 0x20613B74, 0x3D615E31, 0x30303030, 0);
+        Due.is("text(14) of ^10000", x.text(14), -2 - (8 * 14 + 1));
+        x.feed(0x62617365, 0x20202020, 0x20202020, 0, 0);
+        Due.is("text(6) of base and blanks", x.text(6), -2 - (8 * 6 + 1));
         x.feed(0, 0, 0, 0, 0);
         Due.is("text(0)", x.text(0), -3);
         Due.is("a fault empties the tape", x.count(10), 0);
