@@ -2,6 +2,8 @@
 final class Due {
     private static int asked = 0;
     private static int wrong = 0;
+    /** What the answers asked for now are of, told ahead of each that is wrong. */
+    private static String about = "";
 
     private Due() {
     }
@@ -10,8 +12,33 @@ final class Due {
         asked++;
         if (got != want) {
             wrong++;
-            System.out.println(call + " answered " + got + ", due is " + want);
+            System.out.println(about + call + " answered " + got + ", due is " + want);
         }
+    }
+
+    static void about(String what) {
+        about = what;
+    }
+
+    static int asked() {
+        return asked;
+    }
+
+    /** All that is seen of a program: bases, the two nodes of each step, and wants. */
+    static String picture(PowerChains x) {
+        StringBuilder picture = new StringBuilder("bases ").append(x.count(0));
+        for (int node = x.count(0); node < x.count(0) + x.count(1); node++) {
+            picture.append(", ").append(x.node(node, 0)).append('*').append(x.node(node, 1));
+        }
+        for (int k = 0; k < x.count(2); k++) {
+            picture.append(k == 0 ? " wants " : " ").append(x.wanted(k));
+        }
+        return picture.toString();
+    }
+
+    static void picture(PowerChains x, String want) {
+        String got = picture(x);
+        is("the program is [" + got + "], due is [" + want + "]: 1 if it is;", got.equals(want) ? 1 : 0, 1);
     }
 
     /** The answer of node(), or NO_SUCH if it throws NoSuchElementException. */
