@@ -237,6 +237,8 @@ final class ChangeBoundaries {
         Due.is("bases the other way round", x.same(0), 0);
         Due.text(x, "base a b;c=a*b;want c a;");
         Due.is("the last base's exponent is another", x.same(0), 0);
+        Due.text(x, "base a b;c=a*b;d=c*c;want d a;");
+        Due.is("the first base's exponent is another", x.same(0), 0);
         Due.text(x, "base a;want a;");
         Due.is("a base fewer", x.same(0), 0);
         x = new PowerChains();

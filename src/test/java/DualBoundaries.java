@@ -117,6 +117,56 @@ final class DualBoundaries {
         Due.is("58 steps, 3 wants", row(58, 3).dual(), 60);
         Due.is("57 steps, 4 wants", row(57, 4).dual(), 60);
         Due.is("58 steps, 4 wants", row(58, 4).dual(), -1);
+        theSixtyFirstInEachRow();
+    }
+
+    /** The 61st step may come by a want, by a LEFT or by a RIGHT, of a base or of a step. */
+    private static void theSixtyFirstInEachRow() {
+        PowerChains x = Due.of("base a;want a;");
+        PowerChains y = Due.of("base a;b=a*a;want b;");
+        for (int step = 1; step <= 60; step++) {
+            x.add(0, step - 1);
+        }
+        x.want(0, 60);
+        Due.is("60 by LEFT", x.dualLong(), 60);
+        x.want(1, 60);
+        Due.is("61 by LEFT", x.dualLong(), -1);
+        // Steps of b alone: what b comes to takes all the room that there is.
+        for (int step = 2; step <= 60; step++) {
+            y.add(step - 1, 1);
+        }
+        y.want(0, 60);
+        Due.is("60, of a step", y.dualLong(), 60);
+        y.want(1, 60);
+        Due.is("61, of a step by RIGHT", y.dualLong(), -1);
+        y = Due.of("base a b;c=a*b;want c;");
+        for (int step = 3; step <= 61; step++) {
+            y.add(2, step - 1);
+        }
+        y.want(0, 61);
+        Due.is("59, of two bases", y.dualLong(), 59);
+        y.want(1, 0);
+        Due.is("60, of two bases", y.dualLong(), 60);
+        y.want(2, 0);
+        Due.is("61 by a want of the last base gone through", y.dualLong(), -1);
+        // Behind the 61st, by a want, the row would go on with what a step came to.
+        y.want(2, 0);
+        y.want(3, 0);
+        y.want(0, 61);
+        Due.is("62 by wants of a base", y.dualLong(), -1);
+        // The 61st comes in the row of a step, and the base's own row could do without what that came to.
+        x = Due.of("base a;b=a*a;c=b*b;want c c c c;");
+        y = Due.of("base a;b=a*a;c=b*b;want c c c c;");
+        for (int step = 3; step <= 59; step++) {
+            x.add(step - 1, 1);
+            y.add(1, step - 1);
+        }
+        x.add(59, 0);
+        y.add(59, 0);
+        x.want(0, 60);
+        y.want(0, 60);
+        Due.is("63, of a step by RIGHT", x.dualLong(), -1);
+        Due.is("63, of a step by LEFT", y.dualLong(), -1);
     }
 
     private static void dualCalls() {

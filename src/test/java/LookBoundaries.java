@@ -8,6 +8,7 @@ final class LookBoundaries {
 
     static void all() {
         calls();
+        sixtyFourNodes();
         kinds();
         depthNeedAlike();
         runs();
@@ -37,6 +38,38 @@ final class LookBoundaries {
 
         Sentence.of("Terms", "The constants: `NONE = -1`: None; refused.");
         Due.is("NONE", PowerChains.NONE, -1);
+    }
+
+    /** No program has more nodes: each call goes through all of them. */
+    private static void sixtyFourNodes() {
+        Sentence.of("Terms", "BASES (0 to 4), then STEPS (60 at most), numbered together as NODES from 0 on, and WANTS (0 to 4)");
+        PowerChains x = Due.of("base a b c d;want a b c d;");
+        for (int step = 1; step <= 60; step++) {
+            x.add(step + 2, step < 4 ? step - 1 : 3);
+        }
+        long[] counts = {4, 60, 4, 0, 60, 0, 0, 60, 12};
+        for (int what = 0; what < counts.length; what++) {
+            Due.is("count(" + what + ")", x.count(what), counts[what]);
+        }
+        Due.look(x, 63, 62, 3, 1, 60, 0, 63, 0);
+        Due.is("a 65th node", Due.node(x, 64, 0), Due.NO_SUCH);
+        Due.exponents(x, 63, 1, 1, 1, 58);
+        Due.is("run", x.run(63, 1_000_000, 2, 3, 5, 1), 30);
+        x.want(3, 63);
+        Due.is("needed", x.count(6), 60);
+        x.save(2);
+        Due.is("same", x.same(2), 1);
+        Due.is("fold", x.fold(), 0);
+        Due.is("prune", x.prune(), 0);
+        Due.is("dualLong", x.dualLong(), 60);
+        x.want(3, 0);
+        Due.is("prune", x.prune(), 60);
+        Due.is("a base came to nothing", x.dual(), -1);
+        Due.is("load", x.load(2), 60);
+        Due.is("dual", x.dual(), 60);
+        Due.is("the last want", x.exponent(x.wanted(3), 3), 58);
+        x.undo();
+        Due.is("run", x.run(63, 1_000_000, 1, 1, 1, -1), 1);
     }
 
     private static void kinds() {

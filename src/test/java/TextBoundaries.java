@@ -130,6 +130,12 @@ final class TextBoundaries {
             // 20 to 29 have four doublings, and one more for each bit behind the first.
             due = digit ? 4 + Integer.bitCount(20 + b - '0') - 1 : blank ? 1 : -2 - (8 * (b == ';' ? 14 : 12) + 1);
             Due.is("byte " + b + " behind a number", Due.text(new PowerChains(), text), due);
+            text = "base a;t=a^" + (char) b + ";want t;";
+            // 2 to 9 have a doubling for each bit behind the first, and one more for each that is 1; 0 and 1 can't be.
+            int digitWorth = b - '0';
+            due = !digit ? -2 - (8 * (blank ? 12 : 11) + 1) : digitWorth < 2 ? -2 - (8 * 11 + 4)
+                    : 30 - Integer.numberOfLeadingZeros(digitWorth) + Integer.bitCount(digitWorth);
+            Due.is("byte " + b + " for a number", Due.text(new PowerChains(), text), due);
         }
 
         Sentence.of("Terms", "the signs ; = * ^)");
@@ -337,6 +343,12 @@ final class TextBoundaries {
         Due.fault("base a;want b;", 12, 3);
         Due.fault("base a;want a b;", 14, 3);
         Due.fault("base a;want a a a b;", 18, 3);
+        // What an earlier text gave names to is of no matter, nor what stands within a power.
+        PowerChains x = Due.of("base a b;c=a*b;d=c*c;e=d*d;want e;");
+        Due.is("a step's name of an earlier text", Due.text(x, "base a b;t=a^4;want d;"), -2 - (8 * 20 + 3));
+        Due.is("a step's name within a power", Due.text(x, "base a b;t=a^8;u=c*a;want t;"), -2 - (8 * 17 + 3));
+        Due.is("a base's name of an earlier text", Due.text(x, "base a;want b;"), -2 - (8 * 12 + 3));
+        Due.is("a name of an earlier text given anew", Due.text(x, "base c;a=c*c;b=a*a;want b;"), 2);
 
         Sentence.of("Terms", "4 a NUMBER that can't be, at its first digit (also one of more than 4 digits)");
         Due.fault("base a;t=a^0;want t;", 11, 4);
@@ -454,6 +466,13 @@ final class TextBoundaries {
         Due.is("text(0) of twenty", x.text(0), -2 - 1);
         Due.is("bytes then", x.count(10), 0);
         Due.is("text(0) of none", x.text(0), -2 - 1);
+        // It may end within what would else go on: base ab, base a;t=a^23, blanks.
+        x.feed(0x62617365, 0x2061623B, 0x77616E74, 0x2061623B, 0x20202020);
+        Due.is("within a word", x.text(6), -2 - (8 * 6 + 1));
+        x.feed(0x62617365, 0x20613B74, 0x3D615E32, 0x33333333, 0x33333333);
+        Due.is("within a number", x.text(12), -2 - (8 * 12 + 1));
+        x.feed(0x62617365, 0x20202020, 0x20202020, 0x20202020, 0x20202020);
+        Due.is("within blanks", x.text(7), -2 - (8 * 7 + 1));
         Due.is("60 steps", Due.text(x, SIXTY + "want v;"), 60);
         Due.is("a text of the whole tape", Due.text(x, "base a;t=a*a;want t" + " ".repeat(480) + ";"), 1);
         Due.picture(x, "bases 1, 0*0 wants 1");
