@@ -125,6 +125,15 @@ final class LookBoundaries {
         x = Due.of("base a b;c=a*b;d=a*a;e=b*b;want c d c e;");
         Due.is("by the second want", Due.node(x, 3, 4), 1);
         Due.is("by the fourth want", Due.node(x, 4, 4), 1);
+        // What was needed once may be needed no more: each node, the first and the last one too.
+        x = Due.of("base a b;c=a*a;d=c*c;want d;");
+        for (int node : new int[] {0, 2, 3}) {
+            Due.is("needed: node(" + node + ", 4)", Due.node(x, node, 4), 1);
+        }
+        x.want(0, 1);
+        for (int node : new int[] {0, 2, 3}) {
+            Due.is("no more: node(" + node + ", 4)", Due.node(x, node, 4), 0);
+        }
 
         Sentence.of("Terms", "ALIKE are NODES with the same EXPONENTS.");
         x = Due.of("base a b c d;e=a*d;f=d*a;g=a*c;h=e*g;i=f*g;want a;");
